@@ -250,6 +250,24 @@ public final class AnswersTest {
         beat.hang(9, 6, 0);
         check.due("16: one that cannot be wound", 2, beat.wayRound(9));
         check.due("16: nothing is wound", 0, beat.count(7));
+        wayRoundOfMany();
+    }
+
+    /** In the order of the numbers the ladder of 3 rungs is fetched to 6 and 2, the other way round to 5 and 1. */
+    private static void wayRoundOfMany() {
+        WinderLadders beat = new WinderLadders();
+        beat.ladder(3);
+        beat.ladder(7);
+        beat.hang(6, 3, 0);
+        beat.hang(1, 3, 0);
+        beat.hang(4, 7, 0);
+        beat.hang(2, 3, 0);
+        beat.hang(5, 3, 0);
+        check.due("16: fetched to 6, 4 and 2", (6 + 12 + 5 + 3 + 8 + 2 + 4 + 3 + 5) * 5 + 50, beat.takes(31));
+        check.due("16: fetched to 5, 4 and 1", 1, beat.wayRound(31));
+        check.due("16: two of them", 1, beat.wayRound(3));
+        check.due("16: four of them, to 6, 4 and 2, or 2, 4 and 1", 1, beat.wayRound(15));
+        check.due("16: three of them, to 1, 4 and 2, or 2, 4 and 1", 2, beat.wayRound(14));
     }
 
     private static void changesNothing() {

@@ -211,8 +211,23 @@ public final class ChangesTest {
         beat.change(1);
         beat.round(1);
         check.due("6: drift with the screw below 0", 15, beat.of(0, 3));
+        turnsBesideNone();
         turnsAtTheEnds();
         turnsOfStill();
+    }
+
+    private static void turnsBesideNone() {
+        WinderLadders beat = new WinderLadders();
+        beat.hang(0, 0, 1);
+        beat.hang(0, 0, -1);
+        beat.change(0);
+        beat.round(3);
+        check.due("6: drift 1", 19, beat.of(0, 3));
+        check.due("6: drift -1", 21, beat.of(1, 3));
+        beat.change(0);
+        beat.round(3);
+        check.due("6: drift -2 with the screw", 20, beat.of(0, 3));
+        check.due("6: drift 2 with the screw", 20, beat.of(1, 3));
     }
 
     private static void turnsAtTheEnds() {

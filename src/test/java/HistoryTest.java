@@ -9,8 +9,10 @@ public final class HistoryTest {
         undoDepth();
         undoRecordsChangesOnly();
         undoKeepsPadAndSlots();
+        undoOldest();
         save();
         restore();
+        restoreWhereOthersWere();
         check.end("HistoryTest");
     }
 
@@ -48,10 +50,10 @@ public final class HistoryTest {
     }
 
     private static void undoEach() {
-        WinderLadders beat = example();
-        beat.save(1);
-        String before = Check.all(beat);
         for (int i = 0; i < 9; i++) {
+            WinderLadders beat = example();
+            beat.save(1);
+            String before = Check.all(beat);
             int changes = beat.count(13);
             switch (i) {
                 case 0: beat.set(1, 3); break;
@@ -62,7 +64,7 @@ public final class HistoryTest {
                 case 5: beat.pass(30); break;
                 case 6: beat.change(1); break;
                 case 7: Check.write(beat, "s;t40;b0,2,2;+5^5~5;l3"); beat.carryOut(); break;
-                default: beat.pass(20); beat.restore(1); check.due("21: undo restore", changes + 1, beat.undo());
+                default: beat.pass(20); beat.save(1); beat.undo(); beat.restore(1);
             }
             check.due("21: something is changed by " + i, 0, before.equals(Check.all(beat)) ? 1 : 0);
             check.due("21: undo " + i, changes, beat.undo());
@@ -84,6 +86,20 @@ public final class HistoryTest {
         }
         check.due("21: the oldest ones are dropped", NOT_POSSIBLE, beat.undo());
         check.due("21: days stay", days, beat.count(0));
+    }
+
+    private static void undoOldest() {
+        for (int changes = 6; changes < 14; changes++) {
+            WinderLadders beat = new WinderLadders();
+            for (int i = 0; i < changes; i++) {
+                beat.pass(1);
+            }
+            beat.pass(100);
+            for (int i = 0; i < 6; i++) {
+                beat.undo();
+            }
+            check.due("21: the oldest state behind an error", changes - 6, beat.count(0));
+        }
     }
 
     private static void undoRecordsChangesOnly() {
@@ -185,5 +201,29 @@ public final class HistoryTest {
         check.due("23: the pad stays", 2, beat.count(12));
         check.due("23: and its text", 2, beat.fault());
         check.due("23: none", NONE, beat.of(0, 8));
+    }
+
+    private static void restoreWhereOthersWere() {
+        WinderLadders beat = new WinderLadders();
+        beat.save(0);
+        beat.hang(9, 8, 7);
+        beat.ladder(9);
+        beat.pass(9);
+        beat.round(1);
+        beat.pass(2);
+        beat.screw(0, 2);
+        String before = Check.all(beat);
+        beat.save(1);
+        check.due("23: no clocks", 0, beat.restore(0));
+        check.due("23: none stands still", 0, beat.count(3));
+        check.due("23: none goes", 0, beat.change(0));
+        beat.hang(1, 2, 3);
+        beat.ladder(4);
+        int[] due = {1, 2, 103, 20, 1000000000, 0, 1, 1, 0, 1, 0};
+        for (int what = 0; what < due.length; what++) {
+            check.due("23: a new clock, of(0, " + what + ")", due[what], beat.of(0, what));
+        }
+        check.due("23: clocks", 1, beat.restore(1));
+        same("23: all is restored where others were", before, beat);
     }
 }
