@@ -10,6 +10,7 @@ public final class AnswersTest {
         ofLadders();
         ofLadder();
         count();
+        countHigh();
         takes();
         lasts();
         lastsStill();
@@ -114,6 +115,24 @@ public final class AnswersTest {
         beat.undo();
         beat.undo();
         check.due("11: changes", 4, beat.count(13));
+    }
+
+    private static void countHigh() {
+        WinderLadders beat = new WinderLadders();
+        beat.hang(0, 30, 99);
+        beat.hang(0, 0, 0);
+        beat.hang(0, 29, 99);
+        check.due("11: cannot be wound", 2, beat.count(5));
+        check.due("15: the first clock is the highest", 30, beat.ladderFor());
+        beat.pass(1);
+        check.due("11: off by more than told", 2, beat.count(4));
+        beat.undo();
+        beat.undo();
+        check.due("11: not one that is no more", 1, beat.count(5));
+        beat.undo();
+        beat.undo();
+        check.due("11: none of those that are no more", 0, beat.count(4) + beat.count(5) + beat.count(7));
+        check.due("15: none of those that are no more", NONE, beat.ladderFor());
     }
 
     private static void takes() {

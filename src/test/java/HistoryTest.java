@@ -12,6 +12,7 @@ public final class HistoryTest {
         undoOldest();
         save();
         restore();
+        restoreUndone();
         restoreWhereOthersWere();
         check.end("HistoryTest");
     }
@@ -201,6 +202,16 @@ public final class HistoryTest {
         check.due("23: the pad stays", 2, beat.count(12));
         check.due("23: and its text", 2, beat.fault());
         check.due("23: none", NONE, beat.of(0, 8));
+    }
+
+    private static void restoreUndone() {
+        WinderLadders beat = example();
+        beat.save(1);
+        beat.pass(3);
+        String before = Check.all(beat);
+        beat.restore(1);
+        check.due("23: undo", 3, beat.undo());
+        same("23: all is back as it was ahead of restore", before, beat);
     }
 
     private static void restoreWhereOthersWere() {
