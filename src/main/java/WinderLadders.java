@@ -24,6 +24,8 @@ public final class WinderLadders {
     private final boolean[] slotHolds = new boolean[SLOTS];
     private final Pad pad = new Pad();
     private final Row row = new Row();
+    /** What lasts() tells of each clock, told once for all ranks. */
+    private final int[] lasting = new int[MOST_CLOCKS];
 
     public WinderLadders() {
         for (int i = 0; i < SLOTS; i++) {
@@ -131,8 +133,12 @@ public final class WinderLadders {
     }
 
     public int needs(int rank) {
+        if (rank < 0 || rank >= now.clockCount) {
+            return NO_SUCH;
+        }
+        now.tellDaysUntilOff(lasting);
         for (int i = 0; i < now.clockCount; i++) {
-            if (now.rankOf(i) == rank) {
+            if (now.rankOf(i, lasting) == rank) {
                 return i;
             }
         }
@@ -619,13 +625,20 @@ public final class WinderLadders {
             return hasClock(clock) ? clocks[clock].daysUntilOff(settings[TOLD], settings[WIND]) : NO_SUCH;
         }
 
-        /** Returns how many clocks need the winder ahead of this one. */
-        int rankOf(int clock) {
-            int mine = daysUntilOff(clock);
+        void tellDaysUntilOff(int[] lasting) {
+            for (int i = 0; i < clockCount && i < lasting.length; i++) {
+                lasting[i] = daysUntilOff(i);
+            }
+        }
+
+        /** Returns how many clocks need the winder ahead of this one, NO_SUCH if there is no such clock. */
+        int rankOf(int clock, int[] lasting) {
+            if (!hasClock(clock) || clock >= lasting.length) {
+                return NO_SUCH;
+            }
             int ahead = 0;
-            for (int i = 0; i < clockCount; i++) {
-                int theirs = daysUntilOff(i);
-                if (theirs < mine || theirs == mine && i < clock) {
+            for (int i = 0; i < clockCount && i < lasting.length; i++) {
+                if (lasting[i] < lasting[clock] || lasting[i] == lasting[clock] && i < clock) {
                     ahead++;
                 }
             }

@@ -50,4 +50,31 @@ final class Check {
         }
         return told.append(beat.ladderFor()).append(' ').append(beat.fault()).toString();
     }
+
+    /** All that can be told, as by all(), and then the history, the slots and the text of the pad; uses the object up. */
+    static String deep(WinderLadders beat) {
+        StringBuilder told = new StringBuilder(all(beat));
+        int changes = beat.count(13);
+        told.append('/').append(changes);
+        for (int i = 0; i <= changes; i++) {
+            told.append('/').append(beat.undo()).append(' ').append(all(beat));
+        }
+        for (int slot = 0; slot < 2; slot++) {
+            told.append('/').append(beat.restore(slot)).append(' ').append(all(beat));
+        }
+        return told.append('/').append(beat.carryOut()).append(' ').append(all(beat)).toString();
+    }
+
+    /** Numbers at both ends of a range and beyond them, and those far off that a short or a byte would mistake. */
+    static int[] around(int least, int most) {
+        int[] far = {Integer.MIN_VALUE, Integer.MIN_VALUE + 1, -65536, -65535, -32769, -256, -255, -129, 128, 255, 256, 257,
+            32767, 32768, 65535, 65536, 65537, 1 << 24, 1 << 30, Integer.MAX_VALUE - 1, Integer.MAX_VALUE};
+        int[] numbers = new int[10 + far.length];
+        for (int i = 0; i < 5; i++) {
+            numbers[i] = least - 3 + i;
+            numbers[5 + i] = most - 1 + i;
+        }
+        System.arraycopy(far, 0, numbers, 10, far.length);
+        return numbers;
+    }
 }
