@@ -33,6 +33,7 @@ public final class PromisesEdgesTest {
         needsOfLikeOnes();
         ladderFor();
         wayRound();
+        wayRoundOfAll();
         undo();
         undoAfterSix();
         undoOfNothing();
@@ -491,6 +492,36 @@ public final class PromisesEdgesTest {
         due("16: fewer in the order of the numbers", 0, beat.wayRound(6));
         due("16: one clock alone", 2, beat.wayRound(4));
         due("16: nothing in the house 0", 2, withClockAtHome(1).wayRound(1));
+    }
+
+    /** Sets of 1 to 16 clocks, held against the minutes of two beats of a text. */
+    private static void wayRoundOfAll() {
+        for (int clocks = 1; clocks <= 16; clocks++) {
+            for (int kind = 1; kind <= 12; kind++) {
+                WinderLadders beat = new WinderLadders();
+                beat.ladder(5);
+                beat.ladder(9);
+                String there = "";
+                String back = "";
+                for (int i = 0; i < clocks; i++) {
+                    beat.hang((i * i * kind + 37 * i) % 100, (i * kind + i * i / 3) % 4 * 4, 0);
+                    there = there + "," + i;
+                    back = "," + i + back;
+                }
+                int forwards = minutesOf(beat, "b" + there.substring(1));
+                int backwards = minutesOf(beat, "b" + back.substring(1));
+                due("12: takes of " + clocks + ", " + kind, forwards, beat.takes((1 << clocks) - 1));
+                int want = forwards < backwards ? 0 : forwards > backwards ? 1 : 2;
+                due("16: wayRound of " + clocks + ", " + kind, want, beat.wayRound((1 << clocks) - 1));
+            }
+        }
+    }
+
+    private static int minutesOf(WinderLadders beat, String order) {
+        int before = beat.count(6);
+        Check.write(beat, order);
+        due("20: " + order, 1, beat.carryOut());
+        return beat.count(6) - before;
     }
 
     private static void undo() {
