@@ -658,7 +658,9 @@ public final class WinderLadders {
         }
 
         void prepare(State now) {
-            states[depth].copyFrom(now);
+            if (depth >= 0 && depth <= MOST_UNDONE) {
+                states[depth].copyFrom(now);
+            }
         }
 
         void keepPrepared() {
@@ -679,7 +681,7 @@ public final class WinderLadders {
         }
 
         boolean takeBack(State now) {
-            if (depth == 0) {
+            if (depth <= 0 || depth > MOST_UNDONE) {
                 return false;
             }
             depth--;

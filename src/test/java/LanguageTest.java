@@ -7,10 +7,8 @@ import java.nio.file.Files;
 import java.nio.file.Path;
 import java.util.Set;
 import java.util.TreeSet;
-import java.util.regex.Matcher;
-import java.util.regex.Pattern;
 
-/** The face of the class, and the rules of LANGUAGE.md that can be seen from outside or by plain search. */
+/** The face of the class, and the rules of LANGUAGE.md that can be seen from outside or by its lines; RulesTest has others. */
 public final class LanguageTest {
     private static final Check check = new Check();
     private static final String[] FACE = {"set(int,int)", "hang(int,int,int)", "ladder(int)", "screw(int,int)", "round(int)",
@@ -18,8 +16,6 @@ public final class LanguageTest {
         "ladderFor()", "wayRound(int)", "put(long)", "wipe()", "fault()", "carryOut()", "undo()", "save(int)", "restore(int)"};
     private static final String[] CONSTANTS = {"NO_SUCH -1", "BAD_VALUE -2", "BAD_TEXT -3", "TOO_MANY -4",
         "NOT_POSSIBLE -5", "NONE -6", "TOLD 0", "WIND 1", "STEP 2", "WORK 3"};
-    private static final String FORBIDDEN =
-        "\\b(throw|try|catch|synchronized|assert|import|package|volatile|native|finally)\\b|->|::|Exact\\b|@";
 
     public static void main(String[] args) throws Exception {
         face();
@@ -31,11 +27,14 @@ public final class LanguageTest {
 
     private static void face() {
         Set<String> open = new TreeSet<>();
+        Set<String> names = publicNames();
         for (Method method : WinderLadders.class.getDeclaredMethods()) {
             if (!Modifier.isPrivate(method.getModifiers()) && !method.isSynthetic()) {
                 String whole = method.toString();
                 check.due(whole, 1, whole.startsWith("public int WinderLadders.") ? 1 : 0);
                 open.add(whole.substring(whole.indexOf('.') + 1));
+            } else {
+                check.due(method + " bears a public name", 0, names.contains(method.getName()) ? 1 : 0);
             }
         }
         check.due("the methods " + open, 1, open.equals(new TreeSet<>(Set.of(FACE))) ? 1 : 0);
@@ -61,18 +60,20 @@ public final class LanguageTest {
         check.due("the constants " + open, 1, open.equals(new TreeSet<>(Set.of(CONSTANTS))) ? 1 : 0);
     }
 
-    private static void classesInside() {
+    private static Set<String> publicNames() {
         Set<String> names = new TreeSet<>();
         for (Method method : WinderLadders.class.getMethods()) {
             names.add(method.getName());
         }
+        return names;
+    }
+
+    private static void classesInside() {
+        Set<String> names = publicNames();
         for (Class<?> inside : WinderLadders.class.getDeclaredClasses()) {
-            check.due(inside + " is static", 1, Modifier.isStatic(inside.getModifiers()) ? 1 : 0);
-            check.due(inside + " is not public", 0, Modifier.isPublic(inside.getModifiers()) ? 1 : 0);
             check.due(inside + "'s fields", 1, inside.getDeclaredFields().length <= 20 ? 1 : 0);
             for (Method method : inside.getDeclaredMethods()) {
                 check.due(method + " bears a public name", 0, names.contains(method.getName()) ? 1 : 0);
-                check.due(method + "'s parameters", 1, method.getParameterCount() <= 7 ? 1 : 0);
             }
         }
         check.due("classes inside", 1, WinderLadders.class.getDeclaredClasses().length <= 11 ? 1 : 0);
@@ -80,11 +81,6 @@ public final class LanguageTest {
 
     private static void source() throws IOException {
         String whole = Files.readString(Path.of("src/main/java/WinderLadders.java"));
-        String code = whole.replaceAll("(?s)/\\*.*?\\*/", "").replaceAll("//[^\n]*", "");
-        Matcher matcher = Pattern.compile(FORBIDDEN).matcher(code);
-        while (matcher.find()) {
-            check.due("forbidden: " + matcher.group(), 0, 1);
-        }
         for (int i = 0; i < whole.length(); i++) {
             check.due("sign " + i, 1, whole.charAt(i) < 128 ? 1 : 0);
         }
